@@ -11,6 +11,7 @@ public final class DrawsOut {
 
     private static final int ABOVE = 0, BELOW = 1;
     private static final int MOST_BY = 100;
+    private static final long LEAST_LONG = 1L << 63;
 
     private final Text text;
     private final Reader reader;
@@ -102,14 +103,14 @@ public final class DrawsOut {
         if (!trial.hasInput(input)) {
             return UNKNOWN;
         }
-        return isPart(part) ? lowest(trial.rightCount(input), trial.program.rows, part) : OUTSIDE;
+        return isPart(part) ? lowest(fresh().rightCount(input), trial.program.rows, part) : OUTSIDE;
     }
 
     public int worst(int part) {
         if (part < 0 || part > 2) {
             return OUTSIDE;
         }
-        int input = trial.worstInput();
+        int input = fresh().worstInput();
         return part == 2 ? input : lowest(trial.rightCount(input), trial.program.rows, part);
     }
 
@@ -118,21 +119,21 @@ public final class DrawsOut {
             return OUTSIDE;
         }
         int rows = trial.program.rows;
-        return lowest(trial.rightInputsWithin(0, rows), rows * trial.inputCount(), part);
+        return lowest(fresh().rightInputsWithin(0, rows), rows * trial.inputCount(), part);
     }
 
     public int seen(int i, int part) {
         if (i < 0 || i > trial.program.draws) {
             return UNKNOWN;
         }
-        return isPart(part) ? lowest(trial.rightBeforeEnemy(i), trial.program.rows, part) : OUTSIDE;
+        return isPart(part) ? lowest(fresh().rightBeforeEnemy(i), trial.program.rows, part) : OUTSIDE;
     }
 
     public int kept(int what) {
         if (!isChoice(what)) {
             return OUTSIDE;
         }
-        int row = trial.keptRow();
+        int row = fresh().keptRow();
         return what == 0 ? trial.rightInputsWithin(row, 1) : row;
     }
 
@@ -140,14 +141,14 @@ public final class DrawsOut {
         if (!isChoice(what)) {
             return OUTSIDE;
         }
-        return what == 0 ? trial.goodCount() : trial.leastGood();
+        return what == 0 ? fresh().goodCount() : fresh().leastGood();
     }
 
     public int together(int i) {
         if (i < -1) {
             return OUTSIDE;
         }
-        int many = trial.gatherRows();
+        int many = fresh().gatherRows();
         if (i == -1) {
             return many;
         }
@@ -155,11 +156,11 @@ public final class DrawsOut {
     }
 
     public int again(int a, int b) {
-        return isRatio(a, b) ? trial.runsForMajority(a, b) : OUTSIDE;
+        return isRatio(a, b) ? fresh().runsForMajority(a, b) : OUTSIDE;
     }
 
     public int cap(int a, int b) {
-        return isRatio(a, b) ? trial.runsForOne(a, b) : OUTSIDE;
+        return isRatio(a, b) ? fresh().runsForOne(a, b) : OUTSIDE;
     }
 
     // ---- knots, heaps
@@ -271,7 +272,7 @@ public final class DrawsOut {
 
     public long value(int sum, int x, int y, int z) {
         if (!isChoice(sum) || !Points.isPlace(x) || !Points.isPlace(y) || !Points.isPlace(z)) {
-            return Long.MIN_VALUE;
+            return LEAST_LONG;
         }
         return points.valueAt(sumNumbered(sum), x, y, z);
     }
@@ -329,6 +330,12 @@ public final class DrawsOut {
     }
 
     // ---- what several calls share
+
+    /** The trial, with what its odds are told from made up first: only calls that need it pay. */
+    private Trial fresh() {
+        trial.refresh();
+        return trial;
+    }
 
     private Sum sumNumbered(int sum) {
         return sum == 0 ? first : second;
@@ -760,7 +767,8 @@ public final class DrawsOut {
             return -1L >>> 64 - many << from;
         }
 
-        private void refresh() {
+        /** To be called ahead of all calls below: makes up which rows and inputs are right. */
+        void refresh() {
             if (!stale) {
                 return;
             }
@@ -778,7 +786,6 @@ public final class DrawsOut {
         }
 
         int rightCount(int input) {
-            refresh();
             return Long.bitCount(rightRows[input]);
         }
 
@@ -794,7 +801,6 @@ public final class DrawsOut {
 
         /** How many inputs are right, over all of these rows together. */
         int rightInputsWithin(int from, int many) {
-            refresh();
             int sum = 0;
             for (int row = from; row < from + many; row++) {
                 sum += Integer.bitCount(rightInputs[row]);
@@ -802,22 +808,22 @@ public final class DrawsOut {
             return sum;
         }
 
-        /** How many rows go on after a draw is fixed and all ahead of it. */
-        private int rowsBehind(int draw) {
+        /** In how many ways the draws from one on, up to another, can come. */
+        private int waysOf(int fromDraw, int toDraw) {
             int many = 1;
-            for (int later = draw + 1; later < program.draws; later++) {
-                many *= program.sizes[later];
+            for (int draw = fromDraw; draw < toDraw; draw++) {
+                many *= program.sizes[draw];
             }
             return many;
         }
 
         /** By how many rows it is right, if an enemy sees the first draws and chooses the input then. */
         int rightBeforeEnemy(int draws) {
-            refresh();
-            int many = rowsBehind(draws - 1);
+            int seen = waysOf(0, draws);
+            int many = waysOf(draws, program.draws);
             int sum = 0;
-            for (int from = 0; from < program.rows; from += many) {
-                sum += leastWithin(span(from, many));
+            for (int i = 0; i < seen; i++) {
+                sum += leastWithin(span(i * many, many));
             }
             return sum;
         }
@@ -833,7 +839,7 @@ public final class DrawsOut {
         int keptRow() {
             int from = 0;
             for (int draw = 0; draw < program.draws; draw++) {
-                from = keptWithin(from, rowsBehind(draw), program.sizes[draw]);
+                from = keptWithin(from, waysOf(draw + 1, program.draws), program.sizes[draw]);
             }
             return from;
         }
@@ -856,7 +862,6 @@ public final class DrawsOut {
         }
 
         int goodCount() {
-            refresh();
             int many = 0;
             for (int row = 0; row < program.rows; row++) {
                 if (isGood(row)) {
@@ -867,7 +872,6 @@ public final class DrawsOut {
         }
 
         int leastGood() {
-            refresh();
             for (int row = 0; row < program.rows; row++) {
                 if (isGood(row)) {
                     return row;
@@ -878,7 +882,6 @@ public final class DrawsOut {
 
         /** Puts ROWS TOGETHER into gathered: how many, or NONE. */
         int gatherRows() {
-            refresh();
             int open = (int) span(0, inputCount());
             for (int many = 0; many < Program.MOST_INPUTS; many++) {
                 int row = rowForMost(open);
@@ -1079,7 +1082,7 @@ public final class DrawsOut {
             return sum;
         }
 
-        private static boolean isBetter(int what, int one, int other) {
+        static boolean isBetter(int what, int one, int other) {
             return what == CUT ? one > other : one < other;
         }
 
