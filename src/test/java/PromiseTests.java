@@ -397,6 +397,14 @@ public final class PromiseTests {
         late.inputs(0, 1);
         due("kept(1) of the one row that is right", late.kept(1), 8);
         due("kept(0) of the one row that is right", late.kept(0), 1);
+        DrawsOut six = with("0 draw 2;1 draw 2;2 draw 2;3 draw 2;4 draw 2;5 draw 2;0 mul 0 2;0 mul 0 5;out 0");
+        six.inputs(0, 1);
+        due("kept(1) of six draws", six.kept(1), 41);
+        due("kept(0) of six draws", six.kept(0), 1);
+        promise = 13;
+        part("seen 6 of six draws", six.seen(6, 0), six.seen(6, 1), 1, 8);
+        due("seen(7, 0) of six draws", six.seen(7, 0), UNKNOWN);
+        promise = 14;
         DrawsOut none = new DrawsOut();
         due("kept(1) without draws", none.kept(1), 0);
         due("kept(0) without draws", none.kept(0), 1);
