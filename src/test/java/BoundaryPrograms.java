@@ -20,6 +20,7 @@ public final class BoundaryPrograms {
         faultAtRows();
         faultInLongTexts();
         program();
+        programsOneAfterTheOther();
         draw();
         inputs();
         runBounds();
@@ -60,11 +61,27 @@ public final class BoundaryPrograms {
         due("a full object leaves a new one empty", new DrawsOut().count(0), 0);
         Bench.alike("knots(4) of a new object", Bench.NEW, Bench.knots(4));
         Bench.alike("inputs(0, 0) of a new object", Bench.NEW, Bench.inputs(0, 0));
+        lastCalls();
         due("NONE", DrawsOut.NONE, -1);
         due("UNKNOWN", DrawsOut.UNKNOWN, -2);
         due("OUTSIDE", DrawsOut.OUTSIDE, -3);
         due("NOT", DrawsOut.NOT, -4);
         due("FULL", DrawsOut.FULL, -5);
+    }
+
+    /** 512 calls of one object, of which the last four still tell what the others did. */
+    private static void lastCalls() {
+        DrawsOut x = new DrawsOut();
+        for (int i = 0; i < 127; i++) {
+            x.knots(8);
+            x.edge(0, 7, 99);
+            x.cord(255);
+            x.made(3);
+        }
+        due("call 509", x.count(5), 1);
+        due("call 510", x.count(6), 1);
+        due("call 511", x.count(7), 32);
+        due("call 512", x.measure(0, 1), 99);
     }
 
     private static void writeNumber() {
@@ -223,6 +240,10 @@ public final class BoundaryPrograms {
             fault(line.replace(verb, verb + verb), 2);
             fault(line.replace(verb, verb + " " + verb), 3 + verb.length());
             fault(line.replace(verb, verb.toUpperCase()), 2);
+            for (int i = 0; i < verb.length(); i++) {
+                // Another small letter in the place of each.
+                fault(line.replace(verb, verb.substring(0, i) + "q" + verb.substring(i + 1)), 2);
+            }
             fault(line.replace(verb, "out"), 2);
             fault(line.replace(verb, "0"), 2);
             fault(line.replace(verb, ";"), 2);
@@ -252,6 +273,9 @@ public final class BoundaryPrograms {
         fault("ou 0", 0);
         fault("outs 0", 0);
         fault("ut 0", 0);
+        fault("qut 0", 0);
+        fault("oqt 0", 0);
+        fault("ouq 0", 0);
         fault("out 0 0", 6);
         fault("out out", 4);
         fault("out", 3);
@@ -423,6 +447,25 @@ public final class BoundaryPrograms {
         }
         Bench.alike("program() over one that was refused", Bench.program("0 draw 4;out 0"),
             Bench.join(Bench.write(draws(5, 6, 7)), Bench.calls(y -> y.fault(), y -> y.erase()), Bench.program("0 draw 4;out 0")));
+    }
+
+    /** Odds asked of each of several programs on one object: each has its own. */
+    private static void programsOneAfterTheOther() {
+        Bench.promise(5);
+        DrawsOut x = Bench.made(Bench.inputs(1, 2));
+        String[] texts = {"out 0", "0 is 1;out 0", "0 in 0;out 0", "0 draw 4;out 0", "0 draw 2;1 in 0;0 xor 0 1;out 0", "0 is 1",
+            "0 draw 3;1 in 0;0 mul 0 1;out 0", "1 is 1;out 1", "0 in 1;out 0"};
+        // How many of how many rows are right for input 0, where 0 is told, and for input 1, where not.
+        int[][] wants = {{1, 1, 0, 1}, {0, 1, 1, 1}, {1, 1, 1, 1}, {1, 4, 3, 4}, {1, 2, 1, 2}, {1, 1, 0, 1}, {1, 1, 2, 3}, {0, 1, 1, 1},
+            {1, 1, 0, 1}};
+        for (int i = 0; i < texts.length; i++) {
+            for (Bench.Call write : Bench.write(texts[i])) {
+                write.on(x);
+            }
+            x.program();
+            Bench.part("odds(0) of " + texts[i], x.odds(0, 0), x.odds(0, 1), wants[i][0], wants[i][1]);
+            Bench.part("odds(1) of " + texts[i], x.odds(1, 0), x.odds(1, 1), wants[i][2], wants[i][3]);
+        }
     }
 
     private static void rows(String text, int want) {

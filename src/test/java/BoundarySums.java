@@ -218,6 +218,10 @@ public final class BoundarySums {
                 due("same(1, 1) of a product", d.same(1, 1), NONE);
                 due("same(2, 1) of a product", d.same(2, 1), t[3]);
                 due("same(12, 1) of a product", d.same(12, 1), t[3]);
+                due("same(1, 1) of a product again", d.same(1, 1), NONE);
+                d.term(1 - sum, 1, t[0], t[1], t[2]);
+                due("same(12, 1) of a product of both", d.same(12, 1), NONE);
+                due("same(12, 0) of a product of both", d.same(12, 0), 1728);
             }
         }
         DrawsOut product = Bench.made(terms(0, 1, 1, 1, 1));
