@@ -28,6 +28,7 @@ public final class BoundaryKnots {
         error();
         leastBounds();
         leastHeaps();
+        leastOfAllParts();
         walks();
         Bench.finish(19, 32);
     }
@@ -612,6 +613,61 @@ public final class BoundaryKnots {
         }
         Bench.changesNothing("least(4, 3, 1, 3)", y -> y.least(4, 3, 1, 3));
         Bench.changesNothing("least(2, 2, 1, 3)", y -> y.least(2, 2, 1, 3));
+    }
+
+    /** Each k, t, a and b that is taken, against all heaps that there are. */
+    private static void leastOfAllParts() {
+        Bench.promise(31);
+        for (int k = 1; k <= 4; k++) {
+            for (int t = 1; t <= 4; t++) {
+                int[][] first = firstHeaps(k, t);
+                for (int b = 1; b <= 100; b++) {
+                    DrawsOut x = new DrawsOut();
+                    for (int a = 0; a <= 100; a++) {
+                        due("least(" + k + ", " + t + ", " + a + ", " + b + ")", x.least(k, t, a, b), leastOf(first, a, b));
+                    }
+                }
+            }
+        }
+    }
+
+    /** By size and by how far parities of up to t knots are out at most, the least heap; 0: none. */
+    private static int[][] firstHeaps(int k, int t) {
+        int rows = 1 << k;
+        int[][] first = new int[rows + 1][rows + 1];
+        for (int heap = 1; heap < 1 << rows; heap++) {
+            int out = 0;
+            for (int set = 1; set < rows; set++) {
+                int odd = 0;
+                for (int row = 0; row < rows && Integer.bitCount(set) <= t; row++) {
+                    odd += (heap >> row & 1) * (Integer.bitCount(row & set) & 1);
+                }
+                if (Integer.bitCount(set) <= t) {
+                    out = Math.max(out, Math.abs(Integer.bitCount(heap) - 2 * odd));
+                }
+            }
+            int size = Integer.bitCount(heap);
+            if (first[size][out] == 0) {
+                first[size][out] = heap;
+            }
+        }
+        return first;
+    }
+
+    private static int leastOf(int[][] first, int a, int b) {
+        for (int size = 1; size < first.length; size++) {
+            int least = 0;
+            for (int out = 0; out <= size; out++) {
+                int heap = first[size][out];
+                if (heap != 0 && out * b <= a * size && (least == 0 || heap < least)) {
+                    least = heap;
+                }
+            }
+            if (least != 0) {
+                return least;
+            }
+        }
+        return 0;
     }
 
     private static void walks() {
