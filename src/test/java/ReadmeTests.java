@@ -47,8 +47,7 @@ public final class ReadmeTests {
             shown.add(called.group(1));
         }
         for (var method : DrawsOut.class.getMethods()) {
-            if (method.getDeclaringClass() == DrawsOut.class && !Set.of("erase", "draw").contains(method.getName())
-                    && !shown.contains(method.getName())) {
+            if (method.getDeclaringClass() == DrawsOut.class && !shown.contains(method.getName())) {
                 wrong++;
                 System.out.println("the example does not show " + method.getName());
             }
